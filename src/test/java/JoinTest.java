@@ -56,6 +56,28 @@ final class JoinTest {
         x.join(2, 0);
         due.client("again, with its address, on another subnet", x, 2, 6, 266, 40, 0, 3, 1, 0);
         due.packet("REQUEST, wanted", x, 0, 16, Msg.up(2, 3).kind(Msg.REQUEST).wanted(266).end());
+        for (int i = 0; i < 4; i++) {
+            x.tick();
+        }
+        due.client("its end comes first", x, 2, 1, 0, 0, 0, 4, 1, 0);
+        tryIsOneAgain(due);
+    }
+
+    private static void tryIsOneAgain(Due due) {
+        LeaseNet x = new LeaseNet();
+        x.pool(0, 10, 20, 40);
+        x.join(2, 0);
+        x.run(3);
+        x.drop(0);
+        for (int i = 0; i < 4; i++) {
+            x.tick();
+        }
+        x.run(200);
+        due.client("bound in try 2", x, 2, 3, 10, 44, 10, 3, 2, 0);
+        x.off(2);
+        due.client("its last try", x, 2, 0, 10, 44, 0, 3, 2, 0);
+        x.join(2, 0);
+        due.client("again in try 1", x, 2, 6, 10, 44, 0, 4, 1, 0);
     }
 
     private static void againTooLate(Due due) {

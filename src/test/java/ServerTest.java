@@ -192,6 +192,10 @@ final class ServerTest {
         discover(x, 0, 5);
         answer(due, "offered again", x, 0, offer(0, 5, 2, 20));
         due.record("from now", x, 2, 1, 0, 17);
+        LeaseNet y = with(2, 4, 20);
+        lend(y, 0, 1, 4);
+        discover(y, 0, 3);
+        answer(due, "the last of the pool", y, 0, offer(0, 3, 4, 20));
     }
 
     private static void discoverWanted(Due due) {
@@ -228,6 +232,12 @@ final class ServerTest {
         answer(due, "without a record, before one that is free", x, 1, offer(1, 1, 3, 20));
         discover(x, 2, 1);
         answer(due, "the last without a record", x, 2, offer(2, 1, 4, 20));
+        LeaseNet y = with(2, 3, 20);
+        lend(y, 0, 1, 2);
+        Msg.up(0, 3).ciaddr(2).kind(Msg.RELEASE).end().bringTo(y, SERVER);
+        due.record("released at time 0", y, 2, 2, 0, 0);
+        discover(y, 1, 1);
+        answer(due, "a record of time 0 is a record", y, 1, offer(1, 1, 3, 20));
     }
 
     private static void discoverOldest(Due due) {

@@ -116,6 +116,17 @@ final class TapeTest {
                 }
             }
         }
+        for (int code : new int[] {50, 51, 53, 54}) {
+            isBroken(due, "a code as the 60th byte", Msg.up(0, 0).raw(new int[40]).raw(code).bytes());
+            isBroken(due, "a length as the 60th byte", Msg.up(0, 0).raw(new int[39]).raw(code, 1).bytes());
+            isBroken(due, "a length of 0 there", Msg.up(0, 0).raw(new int[39]).raw(code, 0).bytes());
+            isBroken(due, "a length of 4 there", Msg.up(0, 0).raw(new int[39]).raw(code, 4).bytes());
+            isBroken(due, "3 of 4 bytes", Msg.up(0, 0).raw(new int[36]).raw(code, 4, 1, 2, 255).bytes());
+            isBroken(due, "an option and no end", Msg.up(0, 0).raw(new int[35]).raw(code, 4, 1, 2, 3, 255).bytes());
+        }
+        LeaseNet last = new LeaseNet();
+        Msg.up(0, 0).raw(new int[34]).wanted(9).end().typeOn(last);
+        due.is("an end as the 60th byte", last.told(8), 9);
         LeaseNet x = new LeaseNet();
         Msg.up(0, 0).raw(52, 1, 9, 55, 0).end().raw(53, 2).typeOn(x);
         due.is("other codes may have any length, and so what is behind the end", x.told(7), -1);
