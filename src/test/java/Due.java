@@ -5,6 +5,8 @@ final class Due {
     }
 
     private final String test;
+    private String sentence = "";
+    private int sentences = 0;
     private int checks = 0;
     private int wrong = 0;
 
@@ -12,19 +14,29 @@ final class Due {
         this.test = test;
     }
 
+    /** What is compared from here on is due by these words of the document. */
+    void says(String words) {
+        sentence = " (" + words + ")";
+        sentences++;
+    }
+
     void is(String what, long got, long want) {
         checks++;
         if (got != want) {
-            wrong++;
-            System.out.println(test + ": " + what + " answered " + got + ", due is " + want);
+            wrong(what + " answered " + got + ", due is " + want);
         }
+    }
+
+    private void wrong(String what) {
+        wrong++;
+        System.out.println(test + sentence + ": " + what);
     }
 
     void is(String what, boolean got, boolean want) {
         is(what, got ? 1 : 0, want ? 1 : 0);
     }
 
-    /** The exact class counts, not one that it extends. */
+    /** The exact class counts, not one that it extends; null when the call is due to throw nothing. */
     void fails(String what, Class<? extends RuntimeException> want, Call call) {
         checks++;
         Class<?> got = null;
@@ -34,8 +46,7 @@ final class Due {
             got = e.getClass();
         }
         if (got != want) {
-            wrong++;
-            System.out.println(test + ": " + what + " threw " + got + ", due is " + want);
+            wrong(what + " threw " + got + ", due is " + want);
         }
     }
 
@@ -70,7 +81,8 @@ final class Due {
     }
 
     void end() {
-        System.out.println(test + ": " + checks + " checks, " + wrong + " wrong");
+        String parts = sentences == 0 ? "" : sentences + " sentences, ";
+        System.out.println(test + ": " + parts + checks + " checks, " + wrong + " wrong");
         if (wrong != 0) {
             System.exit(1);
         }
