@@ -294,13 +294,9 @@ public final class LeaseNet {
         if (leavesRow) {
             row.remove(k);
         }
-        if (heard.read(arrived)) {
-            hearAt(place);
+        if (!heard.read(arrived)) {
+            return place;
         }
-        return place;
-    }
-
-    private void hearAt(int place) {
         if (place == SERVER_PLACE) {
             row.post(server.hear(heard, now, draft), draft);
         } else if (isClient(place)) {
@@ -309,6 +305,7 @@ public final class LeaseNet {
         } else {
             passOn(place - RELAYS);
         }
+        return place;
     }
 
     /** A relay passes on the bytes that came, not a message made anew: what stands behind the end stays. */
@@ -696,7 +693,7 @@ public final class LeaseNet {
 
         private int leastOf(int client, Pool pool) {
             for (int a = pool.first; a <= pool.last; a++) {
-                if (isOwner(client, a)) {
+                if (owners[a] == client) {
                     return a;
                 }
             }
@@ -849,8 +846,9 @@ public final class LeaseNet {
             }
             offered = heard.yiaddr;
             offerer = heard.server;
+            state = REQUESTING;
             attempt = 1;
-            return turn(REQUESTING, now, draft);
+            return say(now, draft);
         }
 
         private int hearAck(Message heard, boolean taken, int now, Message draft) {
@@ -876,8 +874,9 @@ public final class LeaseNet {
         /** Wherever the document lets a client begin it has no address, or loses it just then. */
         private int begin(int now, Message draft) {
             forget();
+            state = SELECTING;
             attempt = 1;
-            return turn(SELECTING, now, draft);
+            return say(now, draft);
         }
 
         private void forget() {

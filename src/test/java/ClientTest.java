@@ -2,7 +2,7 @@ import java.util.NoSuchElementException;
 
 /** A client of the document's Terms, with promises 6, 8 and 18: strange, tick, client. */
 final class ClientTest {
-    private static final int SERVER = 16;
+    private static final int SERVER = Play.SERVER;
 
     public static void main(String[] args) {
         Due due = new Due("ClientTest");
@@ -28,15 +28,9 @@ final class ClientTest {
         due.end();
     }
 
-    private static void ticks(LeaseNet x, int n) {
-        for (int i = 0; i < n; i++) {
-            x.tick();
-        }
-    }
-
     /** So many ticks pass, and nothing is sent in them. */
     private static void quiet(Due due, String what, LeaseNet x, int n) {
-        ticks(x, n);
+        Play.ticks(x, n);
         due.is(what + ": quiet until " + x.count(0), x.packets(), 0);
     }
 
@@ -49,33 +43,11 @@ final class ClientTest {
     private static void sent(Due due, String what, LeaseNet x, int place, Msg want) {
         due.is(what + " at " + x.count(0) + ": packets()", x.packets(), 1);
         due.packet(what + " at " + x.count(0), x, 0, place, want);
-        while (x.packets() > 0) {
-            x.drop(0);
-        }
-    }
-
-    private static Msg discover(int client, int xid) {
-        return Msg.up(client, xid).kind(Msg.DISCOVER).end();
+        Play.clear(x);
     }
 
     private static Msg ack(int client, int xid, int address, int lease) {
         return Msg.downTo(client, xid).yiaddr(address).kind(Msg.ACK).lease(lease).end();
-    }
-
-    /** A client that is REQUESTING the address of the server, with xid 2; nothing is under way. */
-    private static LeaseNet requesting(int client, int subnet, int address, int server) {
-        LeaseNet x = new LeaseNet();
-        x.join(client, subnet);
-        x.drop(0);
-        Msg.downTo(client, 1).yiaddr(address).kind(Msg.OFFER).server(server).end().bringTo(x, client);
-        x.drop(0);
-        return x;
-    }
-
-    private static LeaseNet bound(int client, int subnet, int address, int lease) {
-        LeaseNet x = requesting(client, subnet, address, 1);
-        ack(client, 2, address, lease).bringTo(x, client);
-        return x;
     }
 
     private static void wrongInputs(Due due) {
@@ -98,36 +70,36 @@ final class ClientTest {
 
     private static void time(Due due) {
         LeaseNet x = new LeaseNet();
-        for (int t = 1; t <= 300; t++) {
+        for (int t = 1; t <= 200; t++) {
             due.is("tick()", x.tick(), t);
             due.is("count(0)", x.count(0), t);
         }
         due.is("clients that are off send nothing", x.packets(), 0);
         x.down(true);
-        due.is("time goes on while the server is down", x.tick(), 301);
+        due.is("time goes on while the server is down", x.tick(), 201);
     }
 
     private static void selectingTries(Due due) {
         LeaseNet x = new LeaseNet();
-        ticks(x, 2);
+        Play.ticks(x, 2);
         x.join(3, 2);
-        sent(due, "try 1", x, 14, discover(3, 1));
+        sent(due, "try 1", x, 14, Play.discover(3, 1));
         quiet(due, "try 1", x, 3);
         due.client("try 1", x, 3, 1, 0, 0, 0, 1, 1, 2);
-        sends(due, "try 2", x, 14, discover(3, 2));
+        sends(due, "try 2", x, 14, Play.discover(3, 2));
         due.client("try 2", x, 3, 1, 0, 0, 0, 2, 2, 2);
         quiet(due, "try 2", x, 7);
-        sends(due, "try 3", x, 14, discover(3, 3));
+        sends(due, "try 3", x, 14, Play.discover(3, 3));
         due.client("try 3", x, 3, 1, 0, 0, 0, 3, 3, 2);
         for (int xid = 4; xid < 7; xid++) {
             quiet(due, "try 3", x, 15);
-            sends(due, "try 3 again", x, 14, discover(3, xid));
+            sends(due, "try 3 again", x, 14, Play.discover(3, xid));
             due.client("stays in try 3", x, 3, 1, 0, 0, 0, xid, 3, 2);
         }
     }
 
     private static void requestingTries(Due due) {
-        LeaseNet x = requesting(3, 1, 0x70000001, -7);
+        LeaseNet x = Play.requesting(3, 1, 0x70000001, -7);
         quiet(due, "try 1", x, 3);
         due.client("try 1", x, 3, 2, 0, 0, 0, 2, 1, 1);
         sends(due, "try 2", x, 13, Msg.up(3, 3).kind(Msg.REQUEST).wanted(0x70000001).server(-7).end());
@@ -136,13 +108,13 @@ final class ClientTest {
         sends(due, "try 3", x, 13, Msg.up(3, 4).kind(Msg.REQUEST).wanted(0x70000001).server(-7).end());
         due.client("try 3", x, 3, 2, 0, 0, 0, 4, 3, 1);
         quiet(due, "try 3", x, 15);
-        sends(due, "behind try 3 it begins", x, 13, discover(3, 5));
+        sends(due, "behind try 3 it begins", x, 13, Play.discover(3, 5));
         due.client("behind try 3 it begins", x, 3, 1, 0, 0, 0, 5, 1, 1);
     }
 
     private static void rebootingTries(Due due) {
-        LeaseNet x = bound(3, 1, 300, 100);
-        ticks(x, 10);
+        LeaseNet x = Play.bound(3, 1, 300, 100);
+        Play.ticks(x, 10);
         x.off(3);
         x.join(3, 0);
         Msg want = Msg.up(3, 3).kind(Msg.REQUEST).wanted(300).end();
@@ -163,25 +135,24 @@ final class ClientTest {
         while (x.count(0) < 87) {
             x.tick();
         }
-        while (x.packets() > 0) {
-            x.drop(0);
-        }
+        Play.clear(x);
         due.client("renewing still", x, 3, 4);
         int xid = x.client(3, 4);
-        sends(due, "its rebinding time is as it was", x, SERVER, Msg.up(3, xid + 1).ciaddr(300).kind(Msg.REQUEST).end());
+        sends(due, "its rebinding time is as it was", x, SERVER,
+                Msg.up(3, xid + 1).ciaddr(300).kind(Msg.REQUEST).end());
         due.client("rebinding", x, 3, 5);
     }
 
     private static void rebootingEnds(Due due) {
-        LeaseNet x = bound(3, 0, 30, 20);
+        LeaseNet x = Play.bound(3, 0, 30, 20);
         x.off(3);
-        ticks(x, 15);
+        Play.ticks(x, 15);
         x.join(3, 0);
         sent(due, "again", x, SERVER, Msg.up(3, 3).kind(Msg.REQUEST).wanted(30).end());
         quiet(due, "rebooting", x, 3);
         sends(due, "try 2", x, SERVER, Msg.up(3, 4).kind(Msg.REQUEST).wanted(30).end());
         due.client("rebooting", x, 3, 6, 30, 20, 0, 4, 2, 0);
-        sends(due, "its end comes first", x, SERVER, discover(3, 5));
+        sends(due, "its end comes first", x, SERVER, Play.discover(3, 5));
         due.client("begins", x, 3, 1, 0, 0, 0, 5, 1, 0);
     }
 
@@ -200,7 +171,7 @@ final class ClientTest {
         Msg.downTo(3, 1).kind(Msg.NAK).server(1).end().bringTo(x, 3);
         due.client("none of these counts", x, 3, 1, 0, 0, 0, 1, 1, 3);
         due.is("packets()", x.packets(), 0);
-        ticks(x, 4);
+        Play.ticks(x, 4);
         x.drop(0);
         Msg.downTo(3, 1).yiaddr(9).kind(Msg.OFFER).server(1).end().bringTo(x, 3);
         due.client("the xid of its first try is not its last", x, 3, 1, 0, 0, 0, 2, 2, 3);
@@ -213,7 +184,7 @@ final class ClientTest {
     }
 
     private static void acks(Due due) {
-        LeaseNet x = requesting(3, 0, 30, 1);
+        LeaseNet x = Play.requesting(3, 0, 30, 1);
         x.tick();
         ack(3, 1, 30, 50).bringTo(x, 3);
         ack(4, 2, 30, 50).bringTo(x, 3);
@@ -230,10 +201,10 @@ final class ClientTest {
         ack(3, 2, 32, 60).bringTo(x, 3);
         Msg.downTo(3, 2).kind(Msg.NAK).server(1).end().bringTo(x, 3);
         due.client("one that is bound hears none", x, 3, 3, 31, 50, 31, 2, 1, 0);
-        LeaseNet y = requesting(3, 0, 30, 1);
+        LeaseNet y = Play.requesting(3, 0, 30, 1);
         ack(3, 2, -5, 50).bringTo(y, 3);
         due.client("any address but 0", y, 3, 3, -5, 50, -5, 2, 1, 0);
-        LeaseNet z = bound(3, 0, 30, 50);
+        LeaseNet z = Play.bound(3, 0, 30, 50);
         z.off(3);
         z.join(3, 0);
         z.drop(0);
@@ -243,24 +214,24 @@ final class ClientTest {
     }
 
     private static void leases(Due due) {
-        LeaseNet x = bound(0, 0, 30, 10000);
+        LeaseNet x = Play.bound(0, 0, 30, 10000);
         due.client("10000", x, 0, 3, 30, 10000, 30);
-        x = bound(0, 0, 30, 10001);
+        x = Play.bound(0, 0, 30, 10001);
         due.client("10000 of more", x, 0, 3, 30, 10000, 30);
-        x = bound(0, 0, 30, Integer.MAX_VALUE);
+        x = Play.bound(0, 0, 30, Integer.MAX_VALUE);
         due.client("10000 of the most", x, 0, 3, 30, 10000, 30);
-        x = bound(0, 0, 30, 9999);
+        x = Play.bound(0, 0, 30, 9999);
         due.client("9999", x, 0, 3, 30, 9999, 30);
-        x = requesting(0, 0, 30, 1);
-        ticks(x, 4);
+        x = Play.requesting(0, 0, 30, 1);
+        Play.ticks(x, 4);
         x.drop(0);
         ack(0, 3, 30, 10).bringTo(x, 0);
         due.client("from SENT on", x, 0, 3, 30, 14, 30, 3, 2, 0);
     }
 
     private static void lateAck(Due due) {
-        LeaseNet x = requesting(0, 0, 30, 1);
-        ticks(x, 3);
+        LeaseNet x = Play.requesting(0, 0, 30, 1);
+        Play.ticks(x, 3);
         ack(0, 2, 30, 3).bringTo(x, 0);
         due.client("SENT and the lease is not later than now", x, 0, 2, 0, 0, 0, 2, 1, 0);
         x.strange(30, true);
@@ -269,12 +240,12 @@ final class ClientTest {
         x.strange(30, false);
         ack(0, 2, 30, 4).bringTo(x, 0);
         due.client("later by 1", x, 0, 3, 30, 4, 30, 2, 1, 0);
-        sends(due, "and at its end it begins", x, SERVER, discover(0, 3));
+        sends(due, "and at its end it begins", x, SERVER, Play.discover(0, 3));
         due.client("begins", x, 0, 1, 0, 0, 0, 3, 1, 0);
     }
 
     private static void strangers(Due due) {
-        LeaseNet x = requesting(5, 2, 520, 1);
+        LeaseNet x = Play.requesting(5, 2, 520, 1);
         x.strange(520, true);
         x.strange(521, true);
         x.strange(521, false);
@@ -288,7 +259,7 @@ final class ClientTest {
         due.client("one that waits hears nothing", x, 5, 7, 0, 0, 0, 3, 1, 2);
         quiet(due, "waiting", x, 9);
         due.client("waiting still", x, 5, 7, 0, 0, 0, 3, 1, 2);
-        sends(due, "10 ticks ago", x, 14, discover(5, 4));
+        sends(due, "10 ticks ago", x, 14, Play.discover(5, 4));
         due.client("begins", x, 5, 1, 0, 0, 0, 4, 1, 2);
         Msg.downTo(5, 4).yiaddr(521).kind(Msg.OFFER).server(1).end().bringTo(x, 5);
         x.drop(0);
@@ -309,13 +280,13 @@ final class ClientTest {
 
     private static void edgesOfStrange(Due due) {
         for (int a : new int[] {1, 1023, 255, 256}) {
-            LeaseNet x = requesting(0, 0, a, 1);
+            LeaseNet x = Play.requesting(0, 0, a, 1);
             x.strange(a, true);
             ack(0, 2, a, 50).bringTo(x, 0);
             due.client("strange " + a, x, 0, 7, 0, 0, 0, 3, 1, 0);
         }
         for (int a : new int[] {1024, -1, Integer.MIN_VALUE, Integer.MAX_VALUE, 256 + 1023}) {
-            LeaseNet x = requesting(0, 0, a, 1);
+            LeaseNet x = Play.requesting(0, 0, a, 1);
             x.strange(1023, true);
             x.strange(1, true);
             ack(0, 2, a, 50).bringTo(x, 0);
@@ -324,16 +295,14 @@ final class ClientTest {
     }
 
     private static void strangeButBound(Due due) {
-        LeaseNet x = bound(0, 0, 30, 40);
+        LeaseNet x = Play.bound(0, 0, 30, 40);
         x.strange(30, true);
-        ticks(x, 20);
+        Play.ticks(x, 20);
         x.drop(0);
         ack(0, 3, 30, 40).bringTo(x, 0);
         due.client("one that renews does not look", x, 0, 3, 30, 60, 30, 3, 1, 0);
-        ticks(x, 35);
-        while (x.packets() > 0) {
-            x.drop(0);
-        }
+        Play.ticks(x, 35);
+        Play.clear(x);
         due.client("rebinding at 55", x, 0, 5, 30, 60, 30);
         x.strange(31, true);
         ack(0, x.client(0, 4), 31, 40).bringTo(x, 0);
@@ -342,36 +311,34 @@ final class ClientTest {
 
     private static void naks(Due due) {
         Msg nak = Msg.downTo(0, 2).kind(Msg.NAK).end();
-        LeaseNet x = requesting(0, 0, 30, 1);
-        ticks(x, 1);
+        LeaseNet x = Play.requesting(0, 0, 30, 1);
+        Play.ticks(x, 1);
         nak.bringTo(x, 0);
-        sent(due, "requesting", x, SERVER, discover(0, 3));
+        sent(due, "requesting", x, SERVER, Play.discover(0, 3));
         due.client("requesting", x, 0, 1, 0, 0, 0, 3, 1, 0);
         for (int time : new int[] {40, 70}) {
-            LeaseNet y = bound(0, 1, 300, 80);
-            ticks(y, time);
-            while (y.packets() > 0) {
-                y.drop(0);
-            }
+            LeaseNet y = Play.bound(0, 1, 300, 80);
+            Play.ticks(y, time);
+            Play.clear(y);
             int xid = y.client(0, 4);
             due.client("renewing, rebinding", y, 0, time == 40 ? 4 : 5, 300, 80, 300);
             Msg.downTo(0, xid - 1).kind(Msg.NAK).server(1).end().bringTo(y, 0);
             due.client("another xid", y, 0, time == 40 ? 4 : 5, 300, 80, 300);
             Msg.downTo(0, xid).kind(Msg.NAK).server(1).end().bringTo(y, 0);
-            sent(due, "begins", y, 13, discover(0, xid + 1));
+            sent(due, "begins", y, 13, Play.discover(0, xid + 1));
             due.client("begins", y, 0, 1, 0, 0, 0, xid + 1, 1, 1);
         }
-        LeaseNet z = bound(0, 1, 300, 80);
+        LeaseNet z = Play.bound(0, 1, 300, 80);
         z.off(0);
         z.join(0, 2);
         z.drop(0);
         Msg.downTo(0, 3).kind(Msg.NAK).end().bringTo(z, 0);
-        sent(due, "rebooting", z, 14, discover(0, 4));
+        sent(due, "rebooting", z, 14, Play.discover(0, 4));
         due.client("rebooting", z, 0, 1, 0, 0, 0, 4, 1, 2);
     }
 
     private static void otherMessages(Due due) {
-        LeaseNet x = requesting(0, 0, 30, 1);
+        LeaseNet x = Play.requesting(0, 0, 30, 1);
         for (int kind : new int[] {0, 1, 2, 3, 4, 7, 8, 255}) {
             Msg.downTo(0, 2).yiaddr(30).kind(kind).lease(50).server(1).end().bringTo(x, 0);
         }
@@ -390,12 +357,12 @@ final class ClientTest {
     }
 
     private static void renewal(Due due) {
-        LeaseNet x = bound(2, 1, 300, 101);
+        LeaseNet x = Play.bound(2, 1, 300, 101);
         quiet(due, "bound", x, 49);
         due.client("bound", x, 2, 3, 300, 101, 300, 2, 1, 1);
         sends(due, "renewal, lease / 2", x, SERVER, renew(3, 300));
         due.client("renewing", x, 2, 4, 300, 101, 300, 3, 1, 1);
-        // The rebinding time is 101 - 12 = 89: half of 39, upward, is 20; of 19, 10; of 9, 5; of 4, 2; of 2, 2 at least.
+        // The rebinding time is 101 - 12 = 89: half of 39, upward, is 20; of 19, 10; of 9, 5; of 4, 2; of 2, 2.
         quiet(due, "half of 39", x, 19);
         sends(due, "at 70", x, SERVER, renew(4, 300));
         quiet(due, "half of 19", x, 9);
@@ -416,7 +383,7 @@ final class ClientTest {
         quiet(due, "half of 3", x, 1);
         sends(due, "at 100", x, 13, renew(11, 300));
         due.client("rebinding still", x, 2, 5, 300, 101, 300, 11, 1, 1);
-        sends(due, "at its end it begins", x, 13, discover(2, 12));
+        sends(due, "at its end it begins", x, 13, Play.discover(2, 12));
         due.client("begins", x, 2, 1, 0, 0, 0, 12, 1, 1);
     }
 
@@ -426,7 +393,7 @@ final class ClientTest {
         x.join(2, 1);
         x.run(200);
         x.down(true);
-        ticks(x, 69);
+        Play.ticks(x, 69);
         x.run(200);
         due.client("renewing in vain", x, 2, 4, 266, 80, 266);
         x.down(false);
@@ -448,23 +415,23 @@ final class ClientTest {
         x.pool(1, 10, 20, 40);
         x.join(2, 1);
         due.is("by the relay, each way, twice", x.run(200), 8);
-        ticks(x, 20);
+        Play.ticks(x, 20);
         due.is("without the relay", x.run(200), 2);
         due.client("renewed", x, 2, 3, 266, 60, 266, 3, 1, 1);
-        ticks(x, 19);
+        Play.ticks(x, 19);
         due.is("quiet", x.packets(), 0);
         x.tick();
         due.is("its next renewal", x.packets(), 1);
     }
 
     private static void shortLease(Due due) {
-        LeaseNet x = bound(2, 0, 30, 1);
+        LeaseNet x = Play.bound(2, 0, 30, 1);
         due.client("a lease of 1", x, 2, 3, 30, 1, 30);
-        sends(due, "its end", x, SERVER, discover(2, 3));
-        x = bound(2, 0, 30, 2);
+        sends(due, "its end", x, SERVER, Play.discover(2, 3));
+        x = Play.bound(2, 0, 30, 2);
         sends(due, "lease / 2 of 2", x, SERVER, renew(3, 30));
-        sends(due, "its end", x, SERVER, discover(2, 4));
-        x = bound(2, 0, 30, 9);
+        sends(due, "its end", x, SERVER, Play.discover(2, 4));
+        x = Play.bound(2, 0, 30, 9);
         quiet(due, "lease / 2 of 9", x, 3);
         sends(due, "at 4", x, SERVER, renew(3, 30));
         quiet(due, "half of 4", x, 1);
@@ -473,13 +440,13 @@ final class ClientTest {
         due.client("renewing at 7", x, 2, 4);
         sends(due, "9 - 9 / 8 is 8", x, SERVER, renew(5, 30));
         due.client("rebinding at 8", x, 2, 5);
-        sends(due, "its end", x, SERVER, discover(2, 6));
+        sends(due, "its end", x, SERVER, Play.discover(2, 6));
         lateRenewal(due);
     }
 
     private static void lateRenewal(Due due) {
-        LeaseNet x = requesting(2, 0, 30, 1);
-        ticks(x, 3);
+        LeaseNet x = Play.requesting(2, 0, 30, 1);
+        Play.ticks(x, 3);
         ack(2, 2, 30, 5).bringTo(x, 2);
         due.client("its renewal is past when it is bound", x, 2, 3, 30, 5, 30);
         sends(due, "so that it renews with the next tick", x, SERVER, renew(3, 30));
@@ -497,7 +464,7 @@ final class ClientTest {
             due.client("bound", x, c, 3, 13 - c, 50, 13 - c, 2, 1, 0);
             due.record("leased", x, 13 - c, 2, c, 50);
         }
-        ticks(x, 25);
+        Play.ticks(x, 25);
         due.is("all renew", x.packets(), 12);
         for (int c = 0; c < 12; c++) {
             due.packet("in the order of clients", x, c, SERVER, Msg.up(c, 3).ciaddr(13 - c).kind(Msg.REQUEST).end());

@@ -74,8 +74,9 @@ final class Due {
             return;
         }
         is(what + ": place", x.packet(k, -1), place);
-        is(what + ": length", x.packet(k, -2), want.length);
-        for (int i = 0; i < want.length && i < x.packet(k, -2); i++) {
+        int length = x.packet(k, -2);
+        is(what + ": length", length, want.length);
+        for (int i = 0; i < want.length && i < length; i++) {
             is(what + ": byte " + i, x.packet(k, i), want[i]);
         }
     }

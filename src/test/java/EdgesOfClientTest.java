@@ -116,7 +116,7 @@ final class EdgesOfClientTest {
     }
 
     private static void firstParts(Due due) {
-        due.says("its address (0 for none), its end (0 without address), its last xid (0 at first), its try (0 at first)");
+        due.says("address (0 for none), end (0 without address), last xid (0 at first), try (0 at first)");
         due.client("at first", new LeaseNet(), 0, 0, 0, 0, 0, 0, 0, 0);
         for (int state : new int[] {Play.SELECTING, Play.REQUESTING, Play.WAITING}) {
             due.is("end in " + state, Play.inState(state).client(0, 2), 0);
@@ -412,7 +412,7 @@ final class EdgesOfClientTest {
         // A lease, when it renews, and when it rebinds (0: never, for its end comes first).
         int[][] those = {{1, 0, 0}, {2, 1, 0}, {3, 1, 0}, {4, 2, 0}, {5, 2, 0}, {7, 3, 0}, {8, 4, 7}, {9, 4, 8},
             {10, 5, 9}, {15, 7, 14}, {16, 8, 14}, {17, 8, 15}, {23, 11, 21}, {24, 12, 21}, {25, 12, 22}, {99, 49, 87},
-            {100, 50, 88}, {103, 51, 91}, {104, 52, 91}, {301, 150, 264}};
+            {100, 50, 88}, {103, 51, 91}, {104, 52, 91}, {111, 55, 98}};
         for (int[] t : those) {
             int renews = 0;
             int rebinds = 0;
@@ -481,7 +481,7 @@ final class EdgesOfClientTest {
     }
 
     private static void halves(Due due) {
-        due.says("SENT is half of the time (from SENT to the rebinding time, or the end; upward, 2 at least) ago, or more");
+        due.says("half of the time (from SENT to the rebinding time, or the end; upward, 2 at least) ago, or more");
         // 40 renews; 70 is the rebinding time: half of 30, 15, 7, 3; then half of 10, 5, and 2, up to the end.
         sendsAt(due, "a lease of 80", Play.bound(0, 1, 300, 80), 80, "[40, 55, 63, 67, 69, 70, 75, 78, 80]");
         // 50 renews, 89 rebinds: half of 39, 19, 9, 4, and 2 at least; then half of 12, 6, 3, and 2 at least.
@@ -535,15 +535,15 @@ final class EdgesOfClientTest {
 
     private static void boundAsBefore(Due due) {
         due.says("REBOOTING becomes BOUND (as it was bound before)");
-        LeaseNet x = Play.bound(0, 1, 300, 400);
-        Play.ticks(x, 100);
+        LeaseNet x = Play.bound(0, 1, 300, 200);
+        Play.ticks(x, 50);
         x.off(0);
         x.join(0, 2);
         Play.ticks(x, 28);
         Play.clear(x);
-        due.client("its end", x, 0, 3, 300, 400, 300, 5, 3, 2);
-        sendsAt(due, "its renewal and its rebinding time", x, 350, "[200, 275, 313, 332, 341, 346, 348, 350]");
-        due.client("rebinding", x, 0, 5, 300, 400, 300, 13, 3, 2);
+        due.client("its end", x, 0, 3, 300, 200, 300, 5, 3, 2);
+        sendsAt(due, "its renewal and its rebinding time", x, 175, "[100, 138, 157, 166, 171, 173, 175]");
+        due.client("rebinding", x, 0, 5, 300, 200, 300, 12, 3, 2);
     }
 
     private static void waiting(Due due) {

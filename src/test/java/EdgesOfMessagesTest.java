@@ -194,6 +194,7 @@ final class EdgesOfMessagesTest {
         for (int code : CODES) {
             isBroken(due, "a code as the 60th", Msg.up(0, 0).raw(new int[40]).raw(code));
             isBroken(due, "a length as the 60th", Msg.up(0, 0).raw(new int[39]).raw(code, code == 53 ? 1 : 4));
+            isBroken(due, "a length of 0 as the 60th", Msg.up(0, 0).raw(new int[39]).raw(code, 0));
             isBroken(due, "half a number as the last", Msg.up(0, 0).raw(new int[37]).raw(code, 4, 0, 255));
             isBroken(due, "all of a number as the last", Msg.up(0, 0).raw(new int[35]).raw(code, 4, 0, 0, 0, 255));
         }
@@ -225,6 +226,9 @@ final class EdgesOfMessagesTest {
         x.leave(11);
         due.packet("RELEASE", x, 1, 16, new int[] {1, 0, 0, 0, 0, 3, 0, 0, 0, 2, 0, 0, 0, 0, 0, 0, 0, 0, 11,
             53, 1, 7, 255});
+        Play.discover(1, 1).hops(3).giaddr(255).ciaddr(9).yiaddr(9).bringTo(x, 16);
+        x.join(11, 0);
+        due.packet("DISCOVER, whatever was made before it", x, x.packets() - 1, 16, Play.discover(11, 4));
         LeaseNet y = Play.inState(Play.REQUESTING);
         y.strange(1023, true);
         Play.ack(0, 2, 1023, 9).bringTo(y, 0);

@@ -272,8 +272,8 @@ final class EdgesOfNetTest {
         for (int place = 13; place <= 15; place++) {
             for (int client : new int[] {0, 1, 10, 11}) {
                 LeaseNet x = new LeaseNet();
-                Msg.downTo(client, 1).end().bringTo(x, place);
-                due.packet("chaddr " + client, x, 0, client, Msg.downTo(client, 1).end());
+                Msg.downTo(client, 1).giaddr(900).end().bringTo(x, place);
+                due.packet("chaddr " + client, x, 0, client, Msg.downTo(client, 1).giaddr(900).end());
             }
             for (int client : new int[] {12, 13, 16, 128, 255}) {
                 LeaseNet x = new LeaseNet();

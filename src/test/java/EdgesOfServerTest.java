@@ -65,7 +65,6 @@ final class EdgesOfServerTest {
         Msg.up(0, 9).ciaddr(3).kind(Msg.RELEASE).end().bringTo(x, SERVER);
         due.record("neither DECLINE nor RELEASE", x, 3, 2, 0, 20);
         x.down(true);
-        x.pool(0, 2, 5, 30);
         Play.ticks(x, 2);
         x.down(false);
         due.is("count(3)", x.count(3), 1);
@@ -75,7 +74,7 @@ final class EdgesOfServerTest {
         Play.discover(0, 4).bringTo(x, SERVER);
         nothing(due, "nor the last xid", x);
         Play.discover(1, 8).bringTo(x, SERVER);
-        answer(due, "but a xid of then is none that was looked at", x, 1, Play.offer(1, 8, 2, 30));
+        answer(due, "but a xid of then is none that was looked at", x, 1, Play.offer(1, 8, 2, 20));
         relayWhileDown(due);
     }
 
@@ -314,6 +313,12 @@ final class EdgesOfServerTest {
         Play.ticks(y, 100);
         Play.discover(2, 1).bringTo(y, SERVER);
         answer(due, "before those that are free by their time", y, 2, Play.offer(2, 1, 4, 20));
+        LeaseNet z = Play.with(2, 3, 20);
+        Play.lend(z, 0, 1, 2);
+        Msg.up(0, 3).ciaddr(2).kind(Msg.RELEASE).end().bringTo(z, SERVER);
+        due.record("a record of time 0", z, 2, 2, 0, 0);
+        Play.discover(1, 1).bringTo(z, SERVER);
+        answer(due, "before one whose time is 0", z, 1, Play.offer(1, 1, 3, 20));
     }
 
     private static void leastTime(Due due) {
@@ -332,6 +337,29 @@ final class EdgesOfServerTest {
             answer(due, "taken as number " + i, x, 4 + i, Play.offer(4 + i, 1, want[i], 20));
             due.record("it has gone over", x, want[i], 1, 4 + i, 17);
         }
+        int[][] orders = {{2, 3, 4}, {2, 4, 3}, {3, 2, 4}, {3, 4, 2}, {4, 2, 3}, {4, 3, 2}};
+        for (int[] order : orders) {
+            isTakenInOrder(due, order);
+        }
+        besideThePool(due);
+    }
+
+    /** Addresses that are offered one after another are free in that order, and so they are taken. */
+    private static void isTakenInOrder(Due due, int[] order) {
+        LeaseNet x = Play.with(2, 4, 20);
+        for (int i = 0; i < 3; i++) {
+            Msg.up(i, 1).kind(Msg.DISCOVER).wanted(order[i]).end().bringTo(x, SERVER);
+            x.tick();
+        }
+        Play.clear(x);
+        Play.ticks(x, 20);
+        for (int i = 0; i < 3; i++) {
+            Play.discover(3 + i, 1).bringTo(x, SERVER);
+            answer(due, "taken as number " + i, x, 3 + i, Play.offer(3 + i, 1, order[i], 20));
+        }
+    }
+
+    private static void besideThePool(Due due) {
         LeaseNet y = Play.with(5, 6, 20);
         Play.discover(0, 1).bringTo(y, SERVER);
         y.tick();
@@ -372,7 +400,7 @@ final class EdgesOfServerTest {
     }
 
     private static void leasedStill(Due due) {
-        due.says("If that is not leased to this client until later than now, its record becomes OFFERED, until 8 ticks");
+        due.says("If that is not leased to this client until later than now: OFFERED, until 8 ticks from now");
         for (int time : new int[] {0, 1, 19, 20, 21}) {
             LeaseNet x = Play.with(2, 5, 20);
             Play.lend(x, 0, 1, 3);
@@ -483,6 +511,14 @@ final class EdgesOfServerTest {
         request(0, 3).wanted(2).server(2).end().bringTo(y, SERVER);
         due.record("even when its time is past", y, 2, 2, 0, 20);
         leastOfTwo(due);
+        LeaseNet z = Play.with(4, 4, 20);
+        Play.discover(0, 1).bringTo(z, SERVER);
+        z.pool(0, 3, 3, 20);
+        Play.lend(z, 0, 2, 3);
+        z.pool(0, 2, 5, 20);
+        request(0, 4).server(2).end().bringTo(z, SERVER);
+        due.record("of two the least, which is leased", z, 3, 2, 0, 20);
+        due.record("so that the other stays", z, 4, 1, 0, 8);
     }
 
     private static void leastOfTwo(Due due) {
@@ -505,7 +541,7 @@ final class EdgesOfServerTest {
     }
 
     private static void requestWithoutServer(Due due) {
-        due.says("Without a server: not in the pool: NAK; of this client: ACK; without a record: nothing; otherwise NAK");
+        due.says("not in the pool: NAK; of this client: ACK; without a record: nothing; otherwise NAK");
         for (int a : new int[] {0, 1, 3, 8, 255, 258, 1024, 1028, -4, Integer.MIN_VALUE, Integer.MAX_VALUE}) {
             LeaseNet x = Play.with(4, 7, 20);
             request(0, 1).wanted(a).end().bringTo(x, SERVER);
@@ -583,6 +619,16 @@ final class EdgesOfServerTest {
         x.tick();
         Msg.up(0, 3).kind(Msg.DECLINE).wanted(3).end().bringTo(x, SERVER);
         due.record("it is of no client", x, 3, 3, -1, 107);
+        LeaseNet past = Play.with(2, 5, 20);
+        Play.lend(past, 0, 1, 3);
+        Play.ticks(past, 25);
+        Msg.up(0, 3).kind(Msg.DECLINE).wanted(3).end().bringTo(past, SERVER);
+        due.record("one whose time is past", past, 3, 3, -1, 125);
+        LeaseNet beside = Play.with(2, 5, 20);
+        Play.lend(beside, 0, 1, 3);
+        beside.pool(0, 4, 5, 20);
+        Msg.up(0, 3).kind(Msg.DECLINE).wanted(3).end().bringTo(beside, SERVER);
+        due.record("one beside the pool", beside, 3, 3, -1, 100);
     }
 
     private static void release(Due due) {
@@ -609,6 +655,16 @@ final class EdgesOfServerTest {
         Play.clear(x);
         Msg.up(1, 3).ciaddr(2).kind(Msg.RELEASE).end().bringTo(x, SERVER);
         due.record("one that is OFFERED is not LEASED", x, 2, 1, 1, 14);
+        LeaseNet past = Play.with(2, 5, 20);
+        Play.lend(past, 0, 1, 3);
+        Play.ticks(past, 25);
+        Msg.up(0, 3).ciaddr(3).kind(Msg.RELEASE).end().bringTo(past, SERVER);
+        due.record("one whose time is past", past, 3, 2, 0, 25);
+        LeaseNet beside = Play.with(2, 5, 20);
+        Play.lend(beside, 0, 1, 3);
+        beside.pool(0, 4, 5, 20);
+        Msg.up(0, 3).ciaddr(3).kind(Msg.RELEASE).end().bringTo(beside, SERVER);
+        due.record("one beside the pool", beside, 3, 2, 0, 0);
     }
 
     private static void others(Due due) {
@@ -621,6 +677,8 @@ final class EdgesOfServerTest {
             nothing(due, "type " + kind, x);
             due.record("type " + kind, x, 3, 2, 0, 20);
             due.is("records", x.count(2), 1);
+            Play.discover(1, 2).bringTo(x, SERVER);
+            nothing(due, "but its xid, 3, was looked at", x);
         }
         LeaseNet y = Play.with(2, 5, 20);
         Msg.up(0, 3).wanted(3).server(1).end().bringTo(y, SERVER);

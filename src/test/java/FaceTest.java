@@ -86,6 +86,7 @@ final class FaceTest {
         boolean face = where == LeaseNet.class;
         Arrays.stream(where.getDeclaredMethods())
                 .filter(m -> !face || Modifier.isPrivate(m.getModifiers()))
-                .forEach(m -> due.is("own name " + where.getName() + "." + m.getName(), names.contains(m.getName()), false));
+                .map(m -> m.getName())
+                .forEach(name -> due.is("own name " + where.getName() + "." + name, names.contains(name), false));
     }
 }

@@ -95,12 +95,22 @@ final class Msg {
         typeOn(x, bytes());
     }
 
+    /** By eight bytes a call, for the calls of an object are counted. */
     static void typeOn(LeaseNet x, int... bytes) {
-        for (int b : bytes) {
-            if (!x.type(b, 1)) {
+        for (int from = 0; from < bytes.length; from += 8) {
+            int count = Math.min(8, bytes.length - from);
+            if (!x.type(word(bytes, from, count), count)) {
                 throw new AssertionError("the tape is full");
             }
         }
+    }
+
+    static long word(int[] bytes, int from, int count) {
+        long word = 0;
+        for (int i = 0; i < count; i++) {
+            word |= (bytes[from + i] & 255L) << (8 * i);
+        }
+        return word;
     }
 
     void injectTo(LeaseNet x, int place) {

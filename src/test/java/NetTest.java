@@ -148,7 +148,8 @@ final class NetTest {
     private static void relayUp(Due due) {
         for (int s = 1; s <= 3; s++) {
             LeaseNet x = new LeaseNet();
-            Msg.up(200, 77).hops(3).ciaddr(9).yiaddr(8).kind(99).raw(0, 7, 2, 5, 5).end().raw(1, 2, 3).bringTo(x, 12 + s);
+            Msg.up(200, 77).hops(3).ciaddr(9).yiaddr(8).kind(99).raw(0, 7, 2, 5, 5).end().raw(1, 2, 3)
+                    .bringTo(x, 12 + s);
             due.packet("all bytes go on, but for hops and giaddr", x, 0, 16, Msg.up(200, 77).hops(4).ciaddr(9).yiaddr(8)
                     .giaddr(256 * s + 1).kind(99).raw(0, 7, 2, 5, 5).end().raw(1, 2, 3));
             x.drop(0);

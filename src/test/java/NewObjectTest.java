@@ -7,7 +7,7 @@ final class NewObjectTest {
             due.client("new", x, c, 0, 0, 0, 0, 0, 0, 0);
         }
         for (int a = 1; a <= 1023; a++) {
-            due.record("new", x, a, 0, -1, 0);
+            due.record("new", new LeaseNet(), a, 0, -1, 0);
         }
         due.is("packets()", x.packets(), 0);
         due.is("time", x.count(0), 0);

@@ -1,10 +1,13 @@
+import java.util.ArrayList;
 import java.util.Arrays;
+import java.util.List;
 import java.util.NoSuchElementException;
 import java.util.Random;
 
 /**
- * Calls of any kind with any arguments: none throws but what the face names, one that throws changes
- * nothing, the same calls give the same answers, and what is seen keeps to the document's bounds.
+ * Calls of any kind with any arguments: none throws but what the face names, the same calls give the same
+ * answers, an object that is not asked what another one refused answers all else like that one, and what is
+ * seen keeps to the document's bounds. No object is asked more than 512 times.
  */
 final class RobustTest {
     private static final int[] ODD = {
@@ -12,10 +15,11 @@ final class RobustTest {
         1023, 1024, 10001, Integer.MAX_VALUE,
     };
     private static final long THROWN = Long.MIN_VALUE;
+    private static final int CALLS = 260;
 
     public static void main(String[] args) {
         Due due = new Due("RobustTest");
-        for (int seed = 0; seed < 300; seed++) {
+        for (int seed = 0; seed < 600; seed++) {
             one(due, seed);
         }
         due.end();
@@ -23,25 +27,31 @@ final class RobustTest {
 
     private static void one(Due due, int seed) {
         LeaseNet x = new LeaseNet();
-        LeaseNet y = new LeaseNet();
-        Random a = new Random(seed);
-        Random b = new Random(seed);
+        LeaseNet same = new LeaseNet();
+        LeaseNet spared = new LeaseNet();
         int thrown = 0;
-        for (int i = 0; i < 512; i++) {
-            boolean look = i % 8 == 0;
-            long[] before = look ? seen(x) : null;
-            long got = call(due, x, a);
-            due.is("seed " + seed + ", call " + i + ": the same calls, the same answers", got, call(due, y, b));
+        for (int i = 0; i < CALLS; i++) {
+            String what = "seed " + seed + ", call " + i;
+            long got = call(due, x, random(seed, i));
+            due.is(what + ": the same calls, the same answers", call(due, same, random(seed, i)), got);
             if (got == THROWN) {
                 thrown++;
-                if (look) {
-                    due.is("seed " + seed + ", call " + i + " threw, and changed nothing",
-                            Arrays.equals(before, seen(x)), true);
-                }
+            } else {
+                due.is(what + ": without those that threw", call(due, spared, random(seed, i)), got);
             }
         }
         due.is("some calls threw", thrown > 0, true);
-        bounds(due, seed, x);
+        List<Integer> seen = look(x);
+        due.is("seed " + seed + ": the same calls, the same sight", seen.equals(look(same)), true);
+        due.is("seed " + seed + ": what threw changed nothing", seen.equals(look(spared)), true);
+        bounds(due, seed, seen);
+    }
+
+    /** Each call is drawn for itself, so that it can be made on one object and spared another. */
+    private static Random random(int seed, int i) {
+        Random r = new Random(seed * 1009L + i);
+        r.nextInt();
+        return r;
     }
 
     private static int number(Random r, int common) {
@@ -61,7 +71,7 @@ final class RobustTest {
         } catch (IndexOutOfBoundsException e) {
             due.is("IndexOutOfBoundsException of call " + which, among(which, 8, 14, 16, 17, 18), true);
         } catch (IllegalArgumentException e) {
-            due.is("IllegalArgumentException of call " + which, among(which, 0, 4, 12, 14, 15, 19, 20), true);
+            due.is("IllegalArgumentException of call " + which, among(which, 0, 4, 12, 14, 15, 21), true);
         } catch (IllegalStateException e) {
             due.is("IllegalStateException of call " + which, among(which, 1, 2, 3), true);
         } catch (RuntimeException e) {
@@ -90,75 +100,73 @@ final class RobustTest {
             case 12: return x.run(t);
             case 13: return x.type(r.nextLong(), q) ? 1 : 0;
             case 14: return x.told(s);
-            case 15: x.inject(s); return 0;
+            case 15: case 21: x.inject(s); return x.packets();
             case 16: return x.client(p, q);
             case 17: return x.record(t, q);
             case 18: return x.count(q);
-            case 19: case 20: return typed(x, r, s);
+            case 19: case 20: return typed(x, r);
             default: return x.tick();
         }
     }
 
-    /** A message that is whole, for the most part. */
-    private static long typed(LeaseNet x, Random r, int place) {
+    /** A message that is whole, unless something is on the tape before it. */
+    private static long typed(LeaseNet x, Random r) {
         int op = r.nextInt(2) + 1;
         Msg m = op == 1 ? Msg.up(r.nextInt(13), r.nextInt(20)) : Msg.downTo(r.nextInt(13), r.nextInt(20));
-        m.hops(r.nextInt(6)).kind(number(r, 8));
+        m.hops(r.nextInt(6)).kind(number(r, 8) & 255);
         if (r.nextBoolean()) m.ciaddr(number(r, 800));
         if (r.nextBoolean()) m.yiaddr(number(r, 800));
         if (r.nextBoolean()) m.giaddr(number(r, 800));
         if (r.nextBoolean()) m.wanted(number(r, 800));
         if (r.nextBoolean()) m.lease(number(r, 50));
         if (r.nextBoolean()) m.server(number(r, 3));
-        m.end();
-        for (int b : m.bytes()) {
-            x.type(b & 255, 1);
+        int[] bytes = m.end().bytes();
+        int taken = 0;
+        for (int from = 0; from < bytes.length; from += 8) {
+            int count = Math.min(8, bytes.length - from);
+            taken += x.type(Msg.word(bytes, from, count), count) ? 1 : 0;
         }
-        x.inject(place);
-        return x.packets();
+        return taken;
     }
 
-    private static long[] seen(LeaseNet x) {
-        long[] all = new long[20000];
-        int n = 0;
+    /** The parts of clients, then counts, records of some addresses, and packets. */
+    private static List<Integer> look(LeaseNet x) {
+        List<Integer> seen = new ArrayList<>();
         for (int c = 0; c < 12; c++) {
-            for (int w = 0; w < 7; w++) {
-                all[n++] = x.client(c, w);
+            for (int what = 0; what < 7; what++) {
+                seen.add(x.client(c, what));
             }
         }
-        for (int a = 1; a < 1024; a++) {
-            for (int w = 0; w < 3; w++) {
-                all[n++] = x.record(a, w);
+        for (int what = 0; what < 5; what++) {
+            seen.add(x.count(what));
+        }
+        for (int a : new int[] {2, 3, 4, 5, 258, 259, 260, 514, 515, 770}) {
+            for (int what = 0; what < 3; what++) {
+                seen.add(x.record(a, what));
             }
         }
-        for (int w = 0; w < 5; w++) {
-            all[n++] = x.count(w);
+        seen.add(x.packets());
+        for (int k = 0; k < x.packets() && k < 9; k++) {
+            seen.add(x.packet(k, -1));
+            seen.add(x.packet(k, -2));
+            seen.add(x.packet(k, 0));
         }
-        for (int k = 0; k < x.packets(); k++) {
-            for (int i = -2; i < x.packet(k, -2); i++) {
-                all[n++] = x.packet(k, i);
-            }
-        }
-        return Arrays.copyOf(all, n);
+        return seen;
     }
 
-    private static void bounds(Due due, int seed, LeaseNet x) {
-        due.is("seed " + seed + ": 60 packets at most", x.packets() <= 60, true);
-        int records = 0;
-        for (int a = 1; a < 1024; a++) {
-            int state = x.record(a, 0);
-            records += state == 0 ? 0 : 1;
-            due.is("seed " + seed + ": of no client", x.record(a, 1) == -1, state == 0 || state == 3);
-        }
-        due.is("seed " + seed + ": records", x.count(2), records);
-        for (int c = 0; c < 12; c++) {
-            int state = x.client(c, 0);
+    private static void bounds(Due due, int seed, List<Integer> seen) {
+        int now = seen.get(84);
+        for (int c = 0; c < 84; c += 7) {
+            int state = seen.get(c);
             boolean uses = state == 3 || state == 4 || state == 5;
-            due.is("seed " + seed + ": one that uses an address has one", x.client(c, 3) != 0, uses);
-            due.is("seed " + seed + ": an end and an address", x.client(c, 2) != 0, x.client(c, 1) != 0);
-            if (uses) {
-                due.is("seed " + seed + ": until later than now", x.client(c, 2) > x.count(0), true);
-            }
+            due.is("seed " + seed + ": one that uses an address has one", seen.get(c + 3) != 0, uses);
+            due.is("seed " + seed + ": an end and an address", seen.get(c + 2) != 0, seen.get(c + 1) != 0);
+            due.is("seed " + seed + ": until later than now", !uses || seen.get(c + 2) > now, true);
         }
+        for (int a = 89; a < 119; a += 3) {
+            boolean ofNone = seen.get(a) == 0 || seen.get(a) == 3;
+            due.is("seed " + seed + ": of no client", seen.get(a + 1) == -1, ofNone);
+        }
+        due.is("seed " + seed + ": 60 packets at most", seen.get(119) <= 60, true);
     }
 }

@@ -26,7 +26,7 @@ final class RoomTest {
         for (int c = 0; c < 12; c++) {
             x.join(c, c % 2);
         }
-        for (int i = 14; i < CALLS; i += 4) {
+        for (int i = 14; i + 4 <= CALLS; i += 4) {
             x.type(i, 8);
             x.tick();
             x.run(200);
